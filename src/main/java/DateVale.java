@@ -179,7 +179,7 @@ public final class DateVale {
             return false;
         }
         history.keep(now);
-        now.at[day] = house;
+        now.shift(day, house);
         return true;
     }
 
@@ -387,7 +387,7 @@ public final class DateVale {
             return waysFrom(day + 1);
         }
         int ways = 0;
-        int wants = told.bedsFor(day);
+        int wants = told.wants[day];
         for (int house = 0; house < told.houses; house++) {
             if (row[house] >= wants && (laid[house] & told.foes[day]) == 0) {
                 row[house] -= wants;
@@ -689,7 +689,7 @@ public final class DateVale {
             int day = drawBelow(told.days);
             int house = drawBelow(told.houses);
             if (ahead.canShift(told, day, house)) {
-                ahead.at[day] = house;
+                ahead.shift(day, house);
             }
         }
     }
@@ -762,7 +762,7 @@ public final class DateVale {
     }
 
     private static boolean has(int bits, int bit) {
-        return (bits >> bit & 1) != 0;
+        return ((bits >> bit) & 1) != 0;
     }
 
     private static int clamp(int number, int least, int most) {
@@ -884,19 +884,15 @@ public final class DateVale {
         }
 
         boolean isName() {
-            return sort == WORD && !isWordOfLines() && !isWordOfParts();
-        }
-
-        private boolean isWordOfLines() {
-            return isWord("house") || isWord("lends") || isWord("day") || isWord("clash")
+            if (sort != WORD) {
+                return false;
+            }
+            boolean kept = isWord("house") || isWord("beds") || isWord("lends") || isWord("day")
+                || isWord("of") || isWord("on") || isWord("says") || isWord("clash")
                 || isWord("stays") || isWord("fades") || isWord("date") || isWord("move")
-                || isWord("send") || isWord("build");
-        }
-
-        private boolean isWordOfParts() {
-            return isWord("beds") || isWord("of") || isWord("on") || isWord("says")
-                || isWord("plain") || isWord("big") || isWord("early") || isWord("leap")
-                || isWord("not") || isWord("and") || isWord("or");
+                || isWord("send") || isWord("build") || isWord("plain") || isWord("big")
+                || isWord("early") || isWord("leap") || isWord("not") || isWord("and") || isWord("or");
+            return !kept;
         }
 
         /** Always false, for the reader to give up with: the token at hand is the first wrong one. */
@@ -988,7 +984,7 @@ public final class DateVale {
                 return false;
             }
             int house = tape.taken;
-            if (!passHouse(tape, vale, 1 << house | vale.lenders[house])) {
+            if (!passHouse(tape, vale, (1 << house) | vale.lenders[house])) {
                 return false;
             }
             int other = tape.taken;
@@ -1028,7 +1024,7 @@ public final class DateVale {
                 return false;
             }
             int day = tape.taken;
-            if (!passDay(tape, vale, 1 << day | vale.foes[day])) {
+            if (!passDay(tape, vale, (1 << day) | vale.foes[day])) {
                 return false;
             }
             int other = tape.taken;
@@ -1056,7 +1052,8 @@ public final class DateVale {
             }
             vale.fadesTold = true;
             tape.step();
-            return vale.law.read(tape) && tape.passSign(';');
+            vale.law.length = 0;
+            return vale.law.readLevel(tape, Law.TESTS, 0) && tape.passSign(';');
         }
 
         static int readPlan(Tape tape, Vale vale, Plan plan) {
@@ -1178,10 +1175,11 @@ public final class DateVale {
         private static final int STAR = -12;
         private static final int NOTHING = 0;
 
+        /** The levels of an E, from the loosest: TESTS, the two sides of one, a SUM, a PRODUCT. */
         private static final int TESTS = 0;
-        private static final int SUMS = 1;
-        private static final int PRODUCTS = 2;
-        private static final int PARTS = 3;
+        private static final int SIDES = 1;
+        private static final int SUMS = 2;
+        private static final int PRODUCTS = 3;
         private static final int DEEPEST = 5;
 
         private final int[] code = new int[MOST_SIGNS];
@@ -1196,14 +1194,12 @@ public final class DateVale {
             }
         }
 
-        boolean read(Tape tape) {
-            length = 0;
-            return readJoined(tape, TESTS, 0);
-        }
-
-        /** Reads what is joined by the operators of one level, from the left; depth: within how many not and ( ). */
-        private boolean readJoined(Tape tape, int level, int depth) {
-            if (!readSide(tape, level, depth)) {
+        /** Reads what the operators of a level join, from the left; depth: within how many not and ( ). */
+        boolean readLevel(Tape tape, int level, int depth) {
+            if (level > PRODUCTS) {
+                return readPart(tape, depth);
+            }
+            if (!readLevel(tape, level + 1, depth)) {
                 return false;
             }
             for (int joint = 0; joint < MOST_SIGNS; joint++) {
@@ -1212,28 +1208,24 @@ public final class DateVale {
                     return true;
                 }
                 tape.step();
-                if (!readSide(tape, level, depth)) {
+                if (!readLevel(tape, level + 1, depth)) {
                     return false;
                 }
                 add(operator);
-                if (level == SUMS) {
+                if (level == SIDES) {
                     return true;
                 }
             }
             return true;
         }
 
-        private boolean readSide(Tape tape, int level, int depth) {
-            return level < PARTS ? readJoined(tape, level + 1, depth) : readPart(tape, depth);
-        }
-
         private static int operatorOf(Tape tape, int level) {
             switch (level) {
                 case TESTS:
                     return tape.isWord("and") ? AND : tape.isWord("or") ? OR : NOTHING;
-                case SUMS:
+                case SIDES:
                     return tape.isSignOf('<') ? LESS : tape.isSignOf('=') ? SAME : NOTHING;
-                case PRODUCTS:
+                case SUMS:
                     return tape.isSignOf('+') ? PLUS : tape.isSignOf('-') ? MINUS : NOTHING;
                 default:
                     return tape.isSignOf('*') ? STAR : NOTHING;
@@ -1253,7 +1245,7 @@ public final class DateVale {
             int number = tape.number;
             tape.step();
             if (opened) {
-                return readJoined(tape, TESTS, depth + 1) && tape.passSign(')');
+                return readLevel(tape, TESTS, depth + 1) && tape.passSign(')');
             }
             if (denied) {
                 if (!readPart(tape, depth + 1)) {
@@ -1285,7 +1277,7 @@ public final class DateVale {
                 int item = code[at];
                 if (item == NOT) {
                     if (top > 0) {
-                        pile[top - 1] = asInt(pile[top - 1] == 0);
+                        pile[top - 1] = pile[top - 1] == 0 ? 1 : 0;
                     }
                 } else if (item < NOT) {
                     if (top > 1) {
@@ -1304,13 +1296,13 @@ public final class DateVale {
         private static int joined(int operator, int left, int right) {
             switch (operator) {
                 case AND:
-                    return asInt(left != 0 && right != 0);
+                    return left != 0 && right != 0 ? 1 : 0;
                 case OR:
-                    return asInt(left != 0 || right != 0);
+                    return left != 0 || right != 0 ? 1 : 0;
                 case LESS:
-                    return asInt(left < right);
+                    return left < right ? 1 : 0;
                 case SAME:
-                    return asInt(left == right);
+                    return left == right ? 1 : 0;
                 case PLUS:
                     return left + right;
                 case MINUS:
@@ -1318,10 +1310,6 @@ public final class DateVale {
                 default:
                     return left * right;
             }
-        }
-
-        private static int asInt(boolean so) {
-            return so ? 1 : 0;
         }
     }
 
@@ -1336,6 +1324,8 @@ public final class DateVale {
         private final int[] on = new int[MOST_DAYS];
         private final int[] says = new int[MOST_DAYS];
         private final int[] foes = new int[MOST_DAYS];
+        /** In how many beds each DAY lies. */
+        private final int[] wants = new int[MOST_DAYS];
         private final Law law = new Law();
         private int houses;
         private int days;
@@ -1368,6 +1358,7 @@ public final class DateVale {
                 home[days] = homeTold;
                 on[days] = onTold;
                 says[days] = saysTold;
+                wants[days] = kindTold == BIG ? 2 : 1;
                 days++;
             }
         }
@@ -1388,10 +1379,6 @@ public final class DateVale {
                 }
             }
             return NONE;
-        }
-
-        int bedsFor(int day) {
-            return kind[day] == BIG ? 2 : 1;
         }
     }
 
@@ -1452,7 +1439,7 @@ public final class DateVale {
             off = 0;
             for (int day = 0; day < vale.days; day++) {
                 if (isDue(vale, day)) {
-                    receive(vale, day);
+                    receive(vale, day, hostOf(vale, day));
                 }
             }
         }
@@ -1488,8 +1475,7 @@ public final class DateVale {
             return date == due;
         }
 
-        private void receive(Vale vale, int day) {
-            int house = hostOf(vale, day);
+        private void receive(Vale vale, int day, int house) {
             if (house == NONE) {
                 off |= 1 << day;
                 turnedOff++;
@@ -1499,7 +1485,9 @@ public final class DateVale {
             been[day] = 0;
             times[day]++;
             came |= 1 << day;
-            says[day] = clamp(says[day] + change(vale, day, house), 0, 99);
+            int full = Integer.bitCount(guests(vale, house));
+            int more = vale.fadesTold ? vale.law.value(says[day], full, date, times[day]) : -1;
+            says[day] = clamp(says[day] + clamp(more, -9, 9), 0, 99);
         }
 
         private int hostOf(Vale vale, int day) {
@@ -1515,27 +1503,24 @@ public final class DateVale {
             return NONE;
         }
 
-        private int change(Vale vale, int day, int house) {
-            if (!vale.fadesTold) {
-                return -1;
-            }
-            int full = Integer.bitCount(guests(vale, house));
-            return clamp(vale.law.value(says[day], full, date, times[day]), -9, 9);
-        }
-
         boolean holds(Vale vale, int house, int day) {
-            return freeBeds(vale, house) >= vale.bedsFor(day) && (guests(vale, house) & vale.foes[day]) == 0;
+            return freeBeds(vale, house) >= vale.wants[day] && (guests(vale, house) & vale.foes[day]) == 0;
         }
 
         boolean canShift(Vale vale, int day, int house) {
             return at[day] != NONE && at[day] != house && holds(vale, house, day);
         }
 
+        /** How long it has been there goes on: one who changes HOUSES has no longer stay by it. */
+        void shift(int day, int house) {
+            at[day] = house;
+        }
+
         int freeBeds(Vale vale, int house) {
             int free = beds[house];
             for (int day = 0; day < vale.days; day++) {
                 if (at[day] == house) {
-                    free -= vale.bedsFor(day);
+                    free -= vale.wants[day];
                 }
             }
             return free;
@@ -1553,7 +1538,7 @@ public final class DateVale {
         }
 
         int somewhere(Vale vale) {
-            return (1 << vale.days) - 1 & ~guests(vale, NONE);
+            return ((1 << vale.days) - 1) & ~guests(vale, NONE);
         }
 
         int talk(Vale vale, int house) {
@@ -1618,7 +1603,7 @@ public final class DateVale {
                     if (!stand.canShift(vale, who, place)) {
                         return false;
                     }
-                    stand.at[who] = place;
+                    stand.shift(who, place);
                     return true;
                 case LINE_SEND:
                     if (stand.at[who] == NONE) {
