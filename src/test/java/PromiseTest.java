@@ -104,14 +104,18 @@ public final class PromiseTest {
         due("3: TURNED OFF", vale.count(7), 1);
         due("3: a YEAR", Bench.tellYear(vale, "date ; date ;"), 0);
         vale.see(NONE, 0);
-        vale.mark(1, false);
+        for (int mark = 0; mark < 4; mark++) {
+            vale.mark(mark, false);
+        }
         vale.build(0);
         due("3: another VALE", Bench.tell(vale, "house x beds 4 ; day y plain of x on 0 says 1 ;"), 0);
         int[] want = {1, 1, 1, 0, 0, 0, 4, 0, 0, 0, 0, 0, 0};
         for (int what = 0; what < want.length; what++) {
             due("3: count(" + what + ")", vale.count(what), want[what]);
         }
-        due("3: no MARK", vale.mark(1, true), false);
+        for (int mark = 0; mark < 4; mark++) {
+            due("3: no MARK", vale.mark(mark, true), false);
+        }
         due("3: nothing to undo", vale.undo(), false);
         due("3: no lenders", vale.house(0, 3), 0);
         due("3: no FOES", vale.day(0, 7), 0);
@@ -245,6 +249,10 @@ public final class PromiseTest {
         law("not ( 3 + 2 )", 20);
         law("5 and 7", 21);
         law("0 or 7", 21);
+        law("7 or 0", 21);
+        law("0 or 0", 20);
+        law("0 and 7", 20);
+        law("7 and 0", 20);
         law("1 or 0 and 0", 20);
         law("0 and 0 or 1", 21);
         law("not 0 * 5", 25);
@@ -383,6 +391,8 @@ public final class PromiseTest {
         due("12: two, a year apart", vale.judged(2), 2);
         Bench.tellYear(vale, "build a;build a;build a;build a;build a;build a;build a;build a;");
         due("12: a bed beyond nine", vale.judged(0), 7);
+        Bench.tellYear(vale, "date ; date ; move s a ; move s c ; build b ; send s ;");
+        due("12: all can be", vale.judged(0), NONE);
         Bench.tellYear(vale, "send p ;");
         due("12: of one that is nowhere", vale.judged(0), 0);
         due("12: what is now does not matter, nor is it touched", vale.count(5), 8);
@@ -486,8 +496,18 @@ public final class PromiseTest {
         DateVale late = BENCH.told("house a beds 1 ; day b leap of a on 1 says 9 ; day c plain of a on 2 says 9 ; "
             + "day d leap of a on 2 says 9 ;");
         Bench.dates(late, 2);
+        due("17: behind 60", late(4).refused(0), 60);
+        due("17: behind 60, d", late(4).refused(1), 3);
+        due("17: behind 72", late(5).refused(0), NONE);
         due("17: behind 48", late.refused(0), 48);
         due("17: d", late.refused(1), 2);
+    }
+
+    /** When b has FADED, c comes to a, and d to neither: e has f, with whom it clashes. */
+    private static DateVale late(int says) {
+        return BENCH.told("house a beds 3 ; house e beds 3 ; lends a e ; day b plain of a on 0 says " + says
+            + " ; day c big of a on 0 says 9 ; day f plain of e on 0 says 9 ; day d big of a on 0 says 9 ; "
+            + "clash b c ; clash f d ;");
     }
 
     private static void meets() {
@@ -550,6 +570,13 @@ public final class PromiseTest {
         due("19: nine at most there: 7 and 3", nine.beds(1, NONE), -2);
         nine.build(0);
         due("19: nine at most there: 8 and 2", nine.beds(1, NONE), -2);
+        DateVale just = BENCH.told("house a beds 6 ; day b big of a on 1 says 9 ; day c big of a on 1 says 9 ; "
+            + "day d big of a on 1 says 9 ; day e big of a on 1 says 9 ; day f plain of a on 1 says 9 ;");
+        due("19: two a HOUSE", just.beds(1, NONE), -2);
+        for (int fewer = 2; fewer >= 0; fewer--) {
+            just.build(0);
+            due("19: nine there", just.beds(1, NONE), fewer);
+        }
     }
 
     private static void laying() {
@@ -593,6 +620,19 @@ public final class PromiseTest {
         due("22: and are not met behind", early.defer(0), 3);
         Bench.dates(early, 11);
         due("22: c is there, b comes: two at once, whatever the date", early.defer(1), 0);
+        String three = "house a beds 3 ; day g plain of a on 0 says %d ; day b plain of a on 0 says 9 ; "
+            + "day c plain of a on 0 says 9 ; clash g b ; clash g c ;";
+        due("22: two at once behind 24", BENCH.told(String.format(three, 1)).defer(2), 1);
+        DateVale beyond = BENCH.told(String.format(three, 2));
+        Bench.dates(beyond, 11);
+        due("22: two at once behind 25 alone", beyond.defer(2), 0);
+        DateVale both = BENCH.told("house a beds 2 ; day b plain of a on 11 says 1 ; day c plain of a on 11 says 1 ;");
+        Bench.dates(both, 11);
+        due("22: two now do not matter, none comes", both.defer(0), 0);
+        DateVale now = BENCH.told("house a beds 3 ; day b plain of a on 1 says 1 ; day c plain of a on 1 says 9 ; "
+            + "day d plain of a on 0 says 9 ;");
+        Bench.dates(now, 1);
+        due("22: two now, yet not on 0 with d", now.defer(1), 1);
         DateVale vale = full(0);
         due("22: others", vale.defer(4), NONE);
         due("22: others, NONE", vale.defer(NONE), NONE);
@@ -635,6 +675,12 @@ public final class PromiseTest {
         due("24: both", alike.who(), 3);
         alike.see(0, 0);
         due("24: neither", alike.who(), 0);
+        String twins = "house a beds 2 ; day b plain of a on 0 says %d ; day c plain of a on 0 says 9 ;";
+        DateVale parted = BENCH.told(String.format(twins, 1));
+        due("25: behind 24", parted.look(), 24);
+        due("23: behind 24", parted.see(0, 24), true);
+        due("24: c", parted.who(), 2);
+        due("25: behind 36", BENCH.told(String.format(twins, 2)).look(), NONE);
     }
 
     private static void through() {
@@ -663,6 +709,8 @@ public final class PromiseTest {
         due("27: r", vale.quiet(), 2);
         due("27: the first of equal ones", BENCH.told("house a beds 1 ; day b plain of a on 1 says 4 ; "
             + "day c plain of a on 1 says 3 ; day d plain of a on 1 says 3 ;").quiet(), 1);
+        due("27: b", BENCH.told("house a beds 1 ; day b plain of a on 1 says 3 ; day c plain of a on 1 says 3 ; "
+            + "day d plain of a on 1 says 4 ;").quiet(), 0);
         due("27: no DAYS", BENCH.told("house a beds 1 ;").quiet(), NONE);
     }
 
@@ -687,6 +735,9 @@ public final class PromiseTest {
             + "day d plain of a on 1 says 4 ;");
         equal.date();
         due("29: the first of equal ones", equal.loudest(), 0);
+        DateVale low = BENCH.told("house a beds 1 ; house b beds 1 ; day c plain of b on 1 says 2 ;");
+        low.date();
+        due("29: a TALK of 1", low.loudest(), 1);
         DateVale still = BENCH.told("house a beds 1 ; day c plain of a on 1 says 1 ;");
         still.date();
         due("29: one that says nothing is there", still.house(0, 2), 1);
@@ -699,6 +750,8 @@ public final class PromiseTest {
         Bench.dates(vale, 3);
         due("30: the first of equal ones", vale.eldest(0), 2);
         due("30: nobody", vale.eldest(1), NONE);
+        due("30: c to b", vale.move(0, 1), true);
+        due("30: c", vale.eldest(1), 0);
         vale.send(2);
         due("30: f", vale.eldest(0), 3);
         vale.send(3);
@@ -722,6 +775,11 @@ public final class PromiseTest {
         leap.date();
         due("31: not in 24 DATES again", leap.spare(), 1);
         due("31: all is as ahead", leap.count(6), 2);
+        DateVale late = BENCH.told("house a beds 2 ; day c leap of a on 0 says 9 ; day d leap of a on 0 says 9 ;");
+        Bench.dates(late, 23);
+        due("31: behind 25", late.spare(), 1);
+        late.date();
+        due("31: behind 24", late.spare(), 0);
         DateVale edge = BENCH.told("house a beds 2 ; day c plain of a on 0 says 9 ; day d plain of a on 0 says 9 ;");
         due("31: behind 12", edge.spare(), 0);
     }
