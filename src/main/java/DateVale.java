@@ -1195,7 +1195,7 @@ public final class DateVale {
         }
 
         /** Reads what the operators of a level join, from the left; depth: within how many not and ( ). */
-        boolean readLevel(Tape tape, int level, int depth) {
+        private boolean readLevel(Tape tape, int level, int depth) {
             if (level > PRODUCTS) {
                 return readPart(tape, depth);
             }
